@@ -29,7 +29,7 @@ public final class TinyBasicVm {
   private static final int MAX_WORD_LEN = 6;
   private static final int VARIABLES = 26;
 
-  // IF has three expressions, and no statement has more.
+  // IF has three expressions, and no statement has more: three places for each of the lines.
   private static final int SLOTS = 3;
   private static final int MAX_EXPRESSIONS = 48;
 
@@ -715,7 +715,8 @@ public final class TinyBasicVm {
       position++;
       return GOING;
     }
-    return jump(slot + 2);
+    int number = evaluate(slot + 2);
+    return jumpTo(number);
   }
 
   private static boolean holds(int relation, int left, int right) {
@@ -730,11 +731,12 @@ public final class TinyBasicVm {
   }
 
   private int executeGoto(int line) {
-    return jump(line * SLOTS);
+    int number = evaluate(line * SLOTS);
+    return jumpTo(number);
   }
 
-  private int jump(int slot) {
-    int number = evaluate(slot);
+  /** Jumps to the line whose number was evaluated last. */
+  private int jumpTo(int number) {
     if (dividedByZero) {
       return ERR_DIV_ZERO;
     }

@@ -21,6 +21,8 @@ public final class CompileTest {
     resetsTheRunState();
     failureDiscards();
     sameAnswerAgain();
+    usedObject();
+    fullSource();
     Check.finish();
   }
 
@@ -111,6 +113,7 @@ public final class CompileTest {
     bad("1 FOR", "1 FOR A", "1 FOR A=", "1 FOR A=1", "1 FOR A=1 TO", "1 FOR 1=1 TO 2", "1 FOR A 1 TO 2", "1 FOR A=TO 2");
     bad("1 FOR A=1 2", "1 FOR A=1 THEN 2", "1 FOR A=1 TO 2 3", "1 FOR A=1 TO 2 TO 3", "1 FOR A=1 TO 2 END", "1 FOR AA=1 TO 2");
     bad("1 NEXT", "1 NEXT 1", "1 NEXT A B", "1 NEXT A+1", "1 NEXT (A)", "1 NEXT A,B", "1 NEXT END");
+    bad("1 FOR A=1 NEXT 2", "1 FOR A=1 FOR 2", "1 TO A=1 TO 2", "1 IF 1=1 IF 1", "1 THEN 1=1 THEN 1", "1 NEXT A=1 TO 2");
     good("1 LET A=A", "1 GOTO A*2+1", "1 GOSUB (A)", "1 FOR A=A TO A", "1 IF A<A THEN A", "1 IF -A>-(A)THEN -A");
     good("1LET A=1", "  1   LET   A   =   1  ", "1PRINT(1)", "1PRINT-1", "1GOTO(1)", "1FOR A=(1)TO(2)", "1IF(1)=(1)THEN(1)");
   }
@@ -123,6 +126,7 @@ public final class CompileTest {
     bad("1PRINT 1**1", "1PRINT 1*/1", "1PRINT -", "1PRINT --", "1PRINT ()", "1PRINT (", "1PRINT )", "1PRINT (1", "1PRINT 1)");
     bad("1PRINT (1))", "1PRINT ((1)", "1PRINT )1(", "1PRINT (1)(2)", "1PRINT 1(2)", "1PRINT (1)2", "1PRINT (1)A", "1PRINT A(1)");
     bad("1PRINT (+1)", "1PRINT (1+)", "1PRINT (-)", "1PRINT (*1)", "1PRINT 1+(", "1PRINT (1+2", "1PRINT -(1", "1PRINT (1*(2)");
+    bad("1PRINT *1)", "1PRINT +1)", "1PRINT =1)", "1PRINT THEN 1)", "1PRINT 1()", "1PRINT A()", "1PRINT 1(", "1PRINT (1)()");
     bad("1LET A=(1", "1LET A=1)", "1IF (1=1 THEN 1", "1IF 1=1) THEN 1", "1IF (1=1) THEN 1", "1FOR A=(1 TO 2)", "1GOTO (1");
     bad("1PRINT((((((((((((((((((((((((((((((((", "1PRINT))))))))))))))))))))))))))))))))))", "1PRINT ---------------------------------");
   }
@@ -228,5 +232,51 @@ public final class CompileTest {
         Check.due("run after compiling again", Check.wholeState(vm), Check.wholeState(once));
       }
     }
+  }
+
+  /** What an earlier compile leaves inside, failed or not, has no part in the next one. */
+  private static void usedObject() {
+    String[] earlier = {
+      "1PRINT (1", "1PRINT ((1+", "1PRINT 1)", "1PRINT -", "1PRINT -1", "1LET A=-(-(-2))\n2PRINT 1*2+3", "1IF 1<",
+      "1END\n2END\n3END\n3END", "9PRINT 1\n8PRINT 2\n7PRINT 3\n6OOPS", "1FOR A=9TO 1", ends(17), Check.spaces(41)
+    };
+    String[] later = {"1PRINT 1", "1PRINT (2)", "2LET B=3\n1PRINT 4\n3PRINT B", "1IF 1=1THEN 2\n2PRINT 5", ""};
+    TinyBasicVm used = new TinyBasicVm(8, 8, 32);
+    for (String before : earlier) {
+      for (String text : later) {
+        used.clear();
+        Check.load(used, before);
+        used.compile();
+        used.run(20);
+        used.clear();
+        Check.load(used, text);
+        String what = Check.quote(text) + " behind " + Check.quote(before);
+        Check.due("compile of " + what, used.compile(), OK);
+        used.run(20);
+        TinyBasicVm fresh = Check.compiled(text);
+        fresh.run(20);
+        Check.due("state of " + what, Check.wholeState(used), Check.wholeState(fresh));
+      }
+    }
+  }
+
+  /** The last line of a source of 256 characters ends where the room for the source ends. */
+  private static void fullSource() {
+    for (String last : new String[] {"1PRINT 12", "1PRINT A", "1RETURN"}) {
+      due("\n".repeat(256 - last.length()) + last, OK, 0);
+    }
+    for (String last : new String[] {"1IF A<", "1IF A>", "1PRINT (", "1OOPS", "1"}) {
+      due("\n".repeat(256 - last.length()) + last, SYNTAX, 257 - last.length());
+    }
+    String line = "PRINT 1+2*(3-4)/-5+6*7-8+9+A+B\n";
+    StringBuilder text = new StringBuilder();
+    for (int i = 1; i <= 7; i++) {
+      text.append(i).append(line);
+    }
+    text.append("8PRINT ").append("-".repeat(24)).append("1");
+    Check.due("length of the full source", text.length(), 256);
+    TinyBasicVm vm = Check.compiled(text.toString());
+    vm.run(20);
+    Check.due("output of the full source", Check.outputOf(vm), "44 44 44 44 44 44 44 1");
   }
 }

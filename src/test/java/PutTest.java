@@ -109,6 +109,9 @@ public final class PutTest {
     Check.due("put of a bad last", vm.put(10, 10, 10, 127), false);
     Check.due("put of a bad first", vm.put(9, 10, 10, 10), false);
     Check.due("put of a negative", vm.put(10, -1, 0, 0), false);
+    Check.due("put of a bad third and last", vm.put(10, 10, 127, 0), false);
+    Check.due("put of a bad second and last", vm.put(10, 127, 0, 0), false);
+    Check.due("put of a bad character before a 0", vm.put(127, 0, 10, 10), false);
     Check.due("state after refused puts", Check.wholeState(vm), before);
     Check.due("cont after refused puts", vm.cont(1), TinyBasicVm.ST_OUT_OF_FUEL);
     Check.due("steps after refused puts", vm.getSteps(), 8);
