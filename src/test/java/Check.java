@@ -2,15 +2,27 @@
 final class Check {
   private static int calls = 0;
   private static int wrong = 0;
+  private static String sentence = "";
+  private static int callsOfSentence = 0;
 
   private Check() {}
 
-  static void due(String what, long got, long want) {
-    calls++;
-    if (got != want) {
+  /** Begins the test of one sentence of the document, which is printed with every answer that breaks it. */
+  static void sentence(String words) {
+    endSentence();
+    sentence = words;
+    callsOfSentence = 0;
+  }
+
+  private static void endSentence() {
+    if (!sentence.isEmpty() && callsOfSentence == 0) {
       wrong++;
-      System.out.println(what + " answered " + got + ", due is " + want);
+      System.out.println("no answer was looked at for: " + sentence);
     }
+  }
+
+  static void due(String what, long got, long want) {
+    due(what, Long.toString(got), Long.toString(want));
   }
 
   static void due(String what, boolean got, boolean want) {
@@ -19,13 +31,15 @@ final class Check {
 
   static void due(String what, String got, String want) {
     calls++;
+    callsOfSentence++;
     if (!got.equals(want)) {
       wrong++;
-      System.out.println(what + " answered " + got + ", due is " + want);
+      System.out.println((sentence.isEmpty() ? "" : "[" + sentence + "] ") + what + " answered " + got + ", due is " + want);
     }
   }
 
   static void finish() {
+    endSentence();
     System.out.println(calls + " answers, " + wrong + " not as due");
     if (wrong != 0 || calls == 0) {
       System.exit(1);
@@ -46,15 +60,68 @@ final class Check {
   }
 
   static TinyBasicVm loaded(String text) {
-    TinyBasicVm vm = new TinyBasicVm(8, 8, 32);
+    return loaded(new TinyBasicVm(8, 8, 32), text);
+  }
+
+  static TinyBasicVm loaded(TinyBasicVm vm, String text) {
     due("load of " + quote(text), load(vm, text), true);
     return vm;
   }
 
   static TinyBasicVm compiled(String text) {
-    TinyBasicVm vm = loaded(text);
+    return compiled(new TinyBasicVm(8, 8, 32), text);
+  }
+
+  static TinyBasicVm compiled(TinyBasicVm vm, String text) {
+    loaded(vm, text);
     due("compile of " + quote(text), vm.compile(), TinyBasicVm.C_OK);
     return vm;
+  }
+
+  /** Compiles the text on a new object: the answer and the line of the error are due, and no program after an error. */
+  static void dueCompile(String text, int answer, int errorLine) {
+    TinyBasicVm vm = loaded(text);
+    due("compile of " + quote(text), vm.compile(), answer);
+    due("error line of " + quote(text), vm.getCompileErrorLine(), errorLine);
+    if (answer != TinyBasicVm.C_OK) {
+      dueNoProgram(quote(text), vm);
+    }
+  }
+
+  static void dueGood(String... texts) {
+    for (String text : texts) {
+      dueCompile(text, TinyBasicVm.C_OK, 0);
+    }
+  }
+
+  static void dueBad(String... texts) {
+    for (String text : texts) {
+      dueCompile(text, TinyBasicVm.C_SYNTAX, 1);
+    }
+  }
+
+  /** Compiles and runs the text with all fuel: status, stop line, steps and output are due. */
+  static TinyBasicVm dueRun(String text, int status, int stopLine, int steps, String output) {
+    return dueRun(new TinyBasicVm(8, 8, 32), text, status, stopLine, steps, output);
+  }
+
+  static TinyBasicVm dueRun(TinyBasicVm vm, String text, int status, int stopLine, int steps, String output) {
+    compiled(vm, text);
+    due("run of " + quote(text), vm.run(TinyBasicVm.MAX_FUEL), status);
+    dueStop(quote(text), vm, status, stopLine, steps);
+    due("output of " + quote(text), outputOf(vm), output);
+    return vm;
+  }
+
+  static void dueStop(String when, TinyBasicVm vm, int status, int stopLine, int steps) {
+    due(when + ": getStatus()", vm.getStatus(), status);
+    due(when + ": getStopLine()", vm.getStopLine(), stopLine);
+    due(when + ": getSteps()", vm.getSteps(), steps);
+  }
+
+  static void dueStacks(String when, TinyBasicVm vm, int gosubs, int frames) {
+    due(when + ": GOSUB entries", vm.getStackDepth(TinyBasicVm.STACK_GOSUB), gosubs);
+    due(when + ": FOR frames", vm.getStackDepth(TinyBasicVm.STACK_FOR), frames);
   }
 
   static String quote(String text) {

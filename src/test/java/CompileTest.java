@@ -26,26 +26,16 @@ public final class CompileTest {
     Check.finish();
   }
 
-  /** Compiles the text on a new object; on an error the line of the error is due too. */
   private static void due(String text, int answer, int errorLine) {
-    TinyBasicVm vm = Check.loaded(text);
-    Check.due("compile of " + Check.quote(text), vm.compile(), answer);
-    Check.due("error line of " + Check.quote(text), vm.getCompileErrorLine(), errorLine);
-    if (answer != OK) {
-      Check.dueNoProgram(Check.quote(text), vm);
-    }
+    Check.dueCompile(text, answer, errorLine);
   }
 
   private static void good(String... texts) {
-    for (String text : texts) {
-      due(text, OK, 0);
-    }
+    Check.dueGood(texts);
   }
 
   private static void bad(String... texts) {
-    for (String text : texts) {
-      due(text, SYNTAX, 1);
-    }
+    Check.dueBad(texts);
   }
 
   private static void blankSources() {

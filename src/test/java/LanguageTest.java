@@ -1,132 +1,136 @@
 import java.nio.file.Files;
 import java.nio.file.Path;
-import java.util.ArrayList;
-import java.util.LinkedHashMap;
 import java.util.List;
-import java.util.Map;
-import java.util.TreeSet;
-import java.util.regex.Matcher;
-import java.util.regex.Pattern;
 
-/** The rules of LANGUAGE.md, as far as the program's text shows them. */
+/** The program keeps to the rules of LANGUAGE.md, as far as its text shows it; samples show that a broken rule is found. */
 public final class LanguageTest {
-  private static final int MAX_CALL_DEPTH = 6;
-  private static final int MAX_METHOD_LINES = 60;
-  private static final int MAX_PARAMETERS = 7;
-  private static final int MAX_FIELDS = 40;
-  private static final Pattern METHOD = Pattern.compile(
-      "(?m)^  (?:public|private) (?:static )?(?:\\w+ )?(\\w+)\\(([^)]*)\\) \\{\\n(.*?)\\n  \\}$", Pattern.DOTALL);
-  private static final Pattern CALL = Pattern.compile("\\b([a-zA-Z]\\w*)\\(");
+  // The part of the good sample that a bad sample replaces.
+  private static final String CLASS = "public final class P {";
+  private static final String FIELD = "private int f;";
+  private static final String BODY = "a[0] = q(x);";
+  private static final String GOOD = CLASS + "\n  public static final int C = 3;\n  " + FIELD
+      + "\n  private final int[] a = new int[C];\n  public P(int x) {\n    f = x;\n  }\n  public int p(int x) {\n    " + BODY
+      + "\n    for (int i = 0; i < 3; i++) {\n      f += i;\n    }\n    return f + this.f + a.length;\n  }\n"
+      + "  private int q(int x) {\n    return x > 0 ? x : -x;\n  }\n}\n";
 
   public static void main(String[] args) throws Exception {
-    String text = withoutComments(Files.readString(Path.of("src/main/java/TinyBasicVm.java")));
-    words(text);
-    members(text);
-    methods(text);
+    String program = Files.readString(Path.of("src/main/java/TinyBasicVm.java"));
+    Check.due("faults of the program", LanguageRules.faultsOf("TinyBasicVm", program).toString(), "[]");
+    Check.due("faults of the good sample", LanguageRules.faultsOf("P", GOOD).toString(), "[]");
+    classAndMembers();
+    types();
+    arrays();
+    statements();
+    loops();
+    calls();
     Check.finish();
   }
 
-  private static String withoutComments(String text) {
-    String plain = text.replaceAll("(?s)/\\*.*?\\*/", "").replaceAll("//[^\\n]*", "");
-    return plain.replaceAll("'[^']'", "0");
+  /** The good sample with one part replaced breaks the rule of this number. */
+  private static void dueFault(int rule, String part, String instead) throws Exception {
+    List<String> faults = LanguageRules.faultsOf("P", GOOD.replace(part, instead));
+    boolean found = faults.stream().anyMatch(fault -> fault.startsWith(rule + ":"));
+    Check.due("rule " + rule + " is broken by " + Check.quote(instead) + ", found " + faults, found, true);
   }
 
-  private static void words(String text) {
-    String[] forbidden = {
-      "import", "package", "throw", "throws", "try", "catch", "finally", "synchronized", "assert", "instanceof", "null",
-      "float", "double", "String", "Object", "Math", "Integer", "System", "Arrays", "interface", "enum", "record",
-      "protected", "super", "var", "goto"
-    };
-    for (String word : forbidden) {
-      Check.due("uses of " + word, count(text, "\\b" + word + "\\b"), 0);
+  private static void classAndMembers() throws Exception {
+    dueFault(1, CLASS, "package here; " + CLASS);
+    dueFault(1, CLASS, "class Q { } " + CLASS);
+    dueFault(1, CLASS, "public class P {");
+    dueFault(1, CLASS, "public final class Q {");
+    dueFault(1, CLASS, "public final class P implements Runnable {");
+    dueFault(1, CLASS, "public interface P {");
+    dueFault(1, FIELD, "int f;");
+    dueFault(1, FIELD, "public int f;");
+    dueFault(1, FIELD, "protected int f;");
+    dueFault(1, FIELD, FIELD + " int r() { return 1; }");
+    dueFault(1, FIELD, FIELD + " private int p() { return 1; }");
+    dueFault(1, FIELD, FIELD + " private static final class Q { }");
+    dueFault(1, FIELD, FIELD + " private enum Q { R }");
+    dueFault(1, FIELD, FIELD + " private record Q(int x) { }");
+    dueFault(5, FIELD, FIELD + " private static int s = 1;");
+    dueFault(5, FIELD, FIELD + " private static final boolean S = true;");
+    dueFault(5, FIELD, FIELD + " private static final int[] S = new int[3];");
+    dueFault(5, FIELD, FIELD + " private static final int S = t(); private static int t() { return 1; }");
+    dueFault(5, FIELD, FIELD + " static { }");
+    dueFault(10, FIELD, FIELD + " private int r(int a, int b, int c, int d, int e, int g, int h, int i) { return 1; }");
+    StringBuilder fields = new StringBuilder(FIELD);
+    for (int i = 0; i < 45; i++) {
+      fields.append("private int f").append(i).append(";");
     }
-    Check.due("classes", count(text, "\\bclass\\b"), 1);
-    Check.due("lambdas and method references", count(text, "->|::"), 0);
-    Check.due("strings", count(text, "\""), 0);
-    Check.due("calls on an object or a class", count(text, "\\.\\s*\\w+\\s*\\("), 0);
-    Check.due("arrays of arrays", count(text, "\\]\\s*\\[\\s*\\]|\\[\\s*\\]\\s*\\["), 0);
+    dueFault(10, FIELD, fields.toString());
+    dueFault(10, BODY, "f = 1;\n".repeat(70));
   }
 
-  private static int count(String text, String pattern) {
-    Matcher matcher = Pattern.compile(pattern).matcher(text);
-    int count = 0;
-    while (matcher.find()) {
-      count++;
-    }
-    return count;
+  private static void types() throws Exception {
+    dueFault(2, BODY, "double d = 1;");
+    dueFault(2, BODY, "float d = 1;");
+    dueFault(2, BODY, "String s = x;");
+    dueFault(2, BODY, "f = (int) 1.5;");
+    dueFault(2, BODY, "q(\"\");");
+    dueFault(2, FIELD, "private int f; private Object o;");
+    dueFault(2, FIELD, "private int f; private int[][] o = new int[3];");
+    dueFault(2, FIELD, FIELD + " private String r() { return r(); }");
+    dueFault(3, CLASS, "import java.util.List; " + CLASS);
+    dueFault(3, BODY, "f = Math.abs(x);");
+    dueFault(3, BODY, "f = Integer.MAX_VALUE;");
+    dueFault(3, BODY, "f = java.lang.Integer.MAX_VALUE;");
+    dueFault(3, BODY, "System.exit(1);");
+    dueFault(3, BODY, "f = hashCode();");
+    dueFault(3, BODY, "f = this.hashCode();");
+    dueFault(3, BODY, "int[] b = a.clone();");
+    dueFault(3, FIELD, "@Deprecated " + FIELD);
   }
 
-  private static void members(String text) {
-    int made = count(text, "\\bnew\\b");
-    int madeAsFields = count(text, "(?m)^  private final int\\[\\] \\w+ = new int\\[(\\d+|[A-Z_]+)\\];$");
-    Check.due("arrays made outside the fields' initialisers", made - madeAsFields, 0);
-    int fields = count(text, "(?m)^  private (?!static)[^(]*;$");
-    Check.due("no more than " + MAX_FIELDS + " fields", fields > 0 && fields <= MAX_FIELDS, true);
-    int statics = count(text, "\\bstatic (?=\\w+ \\w+ [\\w]+ =|final)");
-    Check.due("static fields that are constants", count(text, "\\bstatic final int [A-Z_]+ =\\s"), statics);
+  private static void arrays() throws Exception {
+    dueFault(4, BODY, "int[] b = new int[3];");
+    dueFault(4, BODY, "int[] b = {1, 2};");
+    dueFault(4, BODY, "f = a == null ? 1 : 0;");
+    dueFault(4, BODY, "a = a;");
+    dueFault(4, BODY, "new P(1);");
+    dueFault(4, FIELD, FIELD + " private int[] r() { return a; }");
+    dueFault(4, "new int[C]", "new int[0]");
+    dueFault(4, "new int[C]", "new int[f]");
+    dueFault(4, "new int[C]", "new int[C + 1]");
+    dueFault(4, "new int[C]", "new int[3][3]");
+    dueFault(4, "new int[C]", "new int[] {1}");
+    dueFault(4, "f = x;", "if (x > 0) { a = new int[C]; }");
+    dueFault(4, "f = x;", "for (int i = 0; i < 3; i++) { a = new int[C]; }");
+    dueFault(4, "f = x;", "a = x > 0 ? new int[C] : new int[3];");
   }
 
-  private static void methods(String text) {
-    Map<String, String> bodies = new LinkedHashMap<>();
-    Matcher matcher = METHOD.matcher(text);
-    while (matcher.find()) {
-      String name = matcher.group(1);
-      String body = matcher.group(3);
-      Check.due("methods of the name " + name, bodies.put(name, body) == null, true);
-      Check.due(name + " is short", body.split("\n").length <= MAX_METHOD_LINES, true);
-      Check.due(name + " has few parameters", matcher.group(2).split(",").length <= MAX_PARAMETERS, true);
-    }
-    Check.due("methods found", bodies.size(), count(text, "(?m)^  (public|private) [^=;]*\\{$"));
-    for (String name : bodies.keySet()) {
-      Check.due(name + " hands no call to a call", nestedCalls(bodies.get(name)), "[]");
-      int depth = depth(name, bodies, new ArrayList<>());
-      Check.due(name + " calls at most " + MAX_CALL_DEPTH + " deep", depth <= MAX_CALL_DEPTH, true);
-    }
+  private static void statements() throws Exception {
+    dueFault(6, BODY, "throw x;");
+    dueFault(6, BODY, "try { f = 1; } finally { f = 2; }");
+    dueFault(6, BODY, "synchronized (this) { f = 1; }");
+    dueFault(6, BODY, "assert f == 1;");
+    dueFault(6, BODY, "f = a instanceof Object ? 1 : 0;");
+    dueFault(6, BODY, "f = (Object) a;");
+    dueFault(6, BODY, "f = () -> 1;");
+    dueFault(6, BODY, "f = this::q;");
+    dueFault(6, FIELD, FIELD + " private synchronized int r() { return 1; }");
+    dueFault(6, FIELD, FIELD + " private int r() throws Exception { return 1; }");
   }
 
-  private static TreeSet<String> callsIn(String body) {
-    TreeSet<String> calls = new TreeSet<>();
-    Matcher matcher = CALL.matcher(body);
-    while (matcher.find()) {
-      calls.add(matcher.group(1));
-    }
-    calls.removeAll(List.of("if", "for", "while", "switch", "return"));
-    return calls;
+  private static void loops() throws Exception {
+    dueFault(8, BODY, "for (;;) { f++; }");
+    dueFault(8, BODY, "while (true) { f++; }");
+    dueFault(8, BODY, "while (f != 3) { f++; }");
+    dueFault(8, BODY, "while (x < 3) { f++; }");
+    dueFault(8, BODY, "while (x < 3 || f == 0) { x++; }");
+    dueFault(8, BODY, "do { f++; } while (x < 3);");
+    dueFault(8, BODY, "for (int i = 0; i < 3;) { f++; }");
   }
 
-  /** How many methods are under way at once below a call of this one, itself included. */
-  private static int depth(String name, Map<String, String> bodies, List<String> above) {
-    Check.due(name + " below " + above + " is no recursion", above.contains(name), false);
-    if (above.contains(name)) {
-      return 0;
+  private static void calls() throws Exception {
+    dueFault(8, BODY, "f = p(x);");
+    dueFault(8, "return x > 0 ? x : -x;", "return p(x);");
+    dueFault(10, BODY, "f = q(q(x));");
+    dueFault(10, BODY, "f = q(1 + q(x));");
+    StringBuilder chain = new StringBuilder(FIELD + " private int r7() { return 1; }");
+    for (int i = 6; i >= 1; i--) {
+      chain.append(" private int r").append(i).append("() { return r").append(i + 1).append("(); }");
     }
-    List<String> path = new ArrayList<>(above);
-    path.add(name);
-    int deepest = 0;
-    for (String callee : callsIn(bodies.get(name))) {
-      Check.due(callee + " is a method of the class", bodies.containsKey(callee), true);
-      if (bodies.containsKey(callee)) {
-        deepest = Math.max(deepest, depth(callee, bodies, path));
-      }
-    }
-    return deepest + 1;
-  }
-
-  private static String nestedCalls(String body) {
-    TreeSet<String> nested = new TreeSet<>();
-    Matcher matcher = CALL.matcher(body);
-    while (matcher.find()) {
-      if (callsIn(matcher.group()).isEmpty()) {
-        continue;
-      }
-      int end = matcher.end();
-      for (int open = 1; open > 0; end++) {
-        open += body.charAt(end) == '(' ? 1 : body.charAt(end) == ')' ? -1 : 0;
-      }
-      for (String inner : callsIn(body.substring(matcher.end(), end))) {
-        nested.add(matcher.group(1) + "(" + inner + ")");
-      }
-    }
-    return nested.toString();
+    dueFault(10, FIELD, chain.toString());
   }
 }

@@ -28,21 +28,12 @@ public final class RunTest {
     Check.finish();
   }
 
-  /** Runs the text with all fuel: status, stop line, steps and output are due. */
   private static TinyBasicVm due(String text, int status, int stopLine, int steps, String output) {
-    return due(new TinyBasicVm(8, 8, 32), text, status, stopLine, steps, output);
+    return Check.dueRun(text, status, stopLine, steps, output);
   }
 
   private static TinyBasicVm due(TinyBasicVm vm, String text, int status, int stopLine, int steps, String output) {
-    String what = Check.quote(text);
-    Check.due("load of " + what, Check.load(vm, text), true);
-    Check.due("compile of " + what, vm.compile(), TinyBasicVm.C_OK);
-    Check.due("run of " + what, vm.run(1000), status);
-    Check.due("status of " + what, vm.getStatus(), status);
-    Check.due("stop line of " + what, vm.getStopLine(), stopLine);
-    Check.due("steps of " + what, vm.getSteps(), steps);
-    Check.due("output of " + what, Check.outputOf(vm), output);
-    return vm;
+    return Check.dueRun(vm, text, status, stopLine, steps, output);
   }
 
   private static void refusals() {
