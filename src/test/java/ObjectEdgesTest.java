@@ -503,7 +503,7 @@ public final class ObjectEdgesTest {
       TinyBasicVm vm = Check.loaded(text);
       int answer = vm.compile();
       String state = Check.wholeState(vm);
-      for (int round = 0; round < 40; round++) {
+      for (int round = 0; round < 80; round++) {
         vm.run(20);
         Check.due("compile again", vm.compile(), answer);
         Check.due("state again", Check.wholeState(vm), state);
@@ -512,6 +512,17 @@ public final class ObjectEdgesTest {
       once.compile();
       Check.due("run", vm.run(20), once.run(20));
       Check.due("state after run", Check.wholeState(vm), Check.wholeState(once));
+    }
+    // What was compiled before, well or not, has no part in it.
+    TinyBasicVm used = new TinyBasicVm(8, 8, 32);
+    for (String earlier : new String[] {"1PRINT (1", "1PRINT ((-", "1PRINT 1)", "1PRINT -1", "1LET A=-(-2)\n2OOPS", ends(17)}) {
+      Check.load(used, earlier);
+      used.compile();
+      used.clear();
+      Check.compiled(used, "1PRINT 4+5");
+      used.run(9);
+      Check.due("output after " + Check.quote(earlier), Check.outputOf(used), "9");
+      used.clear();
     }
   }
 

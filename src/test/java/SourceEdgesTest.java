@@ -36,6 +36,11 @@ public final class SourceEdgesTest {
     Check.due("compile of 256 characters", vm.compile(), OK);
     vm.run(9);
     Check.due("output of the last characters", Check.outputOf(vm), "8");
+    // A token may end, or be cut off, where the room for the source ends.
+    for (String cut : new String[] {"1IF A<", "1IF A>", "1IF A<=", "1IF A=", "1PRINT (", "1PRINT -", "1PRIN", "1LET A", "1"}) {
+      Check.dueCompile("\n".repeat(256 - cut.length()) + cut, SYNTAX, 257 - cut.length());
+    }
+    Check.dueGood("\n".repeat(248) + "1NEXT A\n", "\n".repeat(249) + "1NEXT A", "\n".repeat(247) + "1GOTO 777", "\n".repeat(246) + "1PRINT (1)");
   }
 
   private static void oneLineMoreThanNewlines() {
@@ -143,9 +148,12 @@ public final class SourceEdgesTest {
     for (int i = 0; i < keywords.length; i++) {
       String word = keywords[i];
       Check.dueGood(lines[i]);
-      Check.dueBad(lines[i].replace(word, word + "A"), lines[i].replace(word, "A" + word), lines[i].replace(word, word + word));
+      Check.dueBad(lines[i].replace(word, word + word), lines[i].replace(word, word + "AAAA"), lines[i].replace(word, "AAAA" + word));
       Check.dueBad(lines[i].replace(word, word.substring(1)), lines[i].replace(word, word.substring(0, word.length() - 1)));
       Check.dueBad(lines[i].replace(word, word.toLowerCase()), "1PRINT " + word, "1LET " + word + "=1");
+      for (char more = 'A'; more <= 'Z'; more++) {
+        Check.dueBad(lines[i].replace(word, more + word), lines[i].replace(word, word + more));
+      }
       for (int letter = 0; letter < word.length(); letter++) {
         Check.dueBad(lines[i].replace(word, word.substring(0, letter) + "Q" + word.substring(letter + 1)));
       }
@@ -160,6 +168,9 @@ public final class SourceEdgesTest {
     }
     for (String wrong : new String[] {"< =", "< >", "> =", "><", "=<", "=>", "<<", ">>", "==", "<>=", "<=>", ">=<", "<=="}) {
       Check.dueBad("1IF A" + wrong + "B THEN 1");
+    }
+    for (String wrong : new String[] {"(", ")", "+", "1", "B", "THEN", "TO", "END", ",", "!=", "#"}) {
+      Check.dueBad("1IF A " + wrong + " C THEN 1", "1IF (A) " + wrong + " 2 THEN 1");
     }
     Check.dueBad("1IF A<", "1IF A>", "1LET A<=1", "1LET A>=1", "1FOR A<>1TO 2", "1PRINT <>");
   }
@@ -189,7 +200,8 @@ public final class SourceEdgesTest {
         if (i > 0) {
           Check.dueBad(before);
         }
-        Check.dueBad(before + "= " + tokens[i] + " " + after, before + ") " + after, before + tokens[i] + " " + tokens[i] + " " + after);
+        Check.dueBad(before + after, before + "= " + tokens[i] + " " + after, before + ") " + after);
+        Check.dueBad(before + tokens[i] + " " + tokens[i] + " " + after);
       }
       for (String more : new String[] {" 1", " A", " END", " )", " (", " =", " THEN 1", " TO 1", " +", " -", " *", " ,"}) {
         Check.dueBad(line + more);
@@ -237,6 +249,7 @@ public final class SourceEdgesTest {
     value("-(-(-(-(-(-(-(-(-(-(7))))))))))", 7);
     value("1-(2-(3-(4-(5-(6-(7-8))))))", -4);
     Check.dueBad("1PRINT()", "1PRINT", "1PRINT-", "1PRINT(", "1PRINT(-)", "1PRINT+1", "1PRINT 1-", "1PRINT(1", "1PRINT 1)");
+    Check.dueBad("1PRINT *1)", "1PRINT +1)", "1PRINT =1)", "1PRINT TO 1)", "1PRINT 1()", "1PRINT A()", "1PRINT 1(", "1PRINT(1)()");
     Check.dueBad("1PRINT" + "(".repeat(34), "1PRINT" + "-".repeat(34), "1PRINT" + ")".repeat(34), "1PRINT(1)(1)", "1PRINT 1(1)");
     Check.dueBad("1PRINT" + "(".repeat(17) + "7" + ")".repeat(16), "1PRINT" + "(".repeat(16) + "7" + ")".repeat(17));
   }
