@@ -64,6 +64,7 @@ final class LanguageRules extends TreePathScanner<Void, Void> {
   private final Set<String> names = new TreeSet<>(Set.of("this"));
   private final Set<String> constants = new TreeSet<>();
   private final Set<String> arrayFields = new TreeSet<>();
+  private final Set<String> arrays = new TreeSet<>();
   private final Map<String, Set<String>> calls = new TreeMap<>();
   private final String text;
   private CompilationUnitTree unit;
@@ -150,6 +151,7 @@ final class LanguageRules extends TreePathScanner<Void, Void> {
     boolean array = field.getType() instanceof ArrayTypeTree;
     if (array) {
       arrayFields.add(name);
+      arrays.add(name);
     }
     boolean constant = flags.contains(Modifier.STATIC) && flags.contains(Modifier.FINAL);
     fault(!flags.contains(Modifier.PRIVATE) && !(constant && flags.contains(Modifier.PUBLIC)), 1, name + " is not private");
@@ -234,6 +236,9 @@ final class LanguageRules extends TreePathScanner<Void, Void> {
   @Override
   public Void visitVariable(VariableTree variable, Void none) {
     names.add(variable.getName().toString());
+    if (variable.getType() instanceof ArrayTypeTree) {
+      arrays.add(variable.getName().toString());
+    }
     typeRules(variable.getType(), variable.getName().toString());
     return super.visitVariable(variable, none);
   }
@@ -285,6 +290,7 @@ final class LanguageRules extends TreePathScanner<Void, Void> {
     fault(!calls.containsKey(name) && !name.equals("super"), 3, "call of " + name);
     for (ExpressionTree argument : call.getArguments()) {
       fault(!callsIn(argument).isEmpty(), 10, "a call in the arguments of " + name);
+      fault(insideConstructor() && isArray(argument), 4, "the constructor hands an array to " + name);
     }
     return super.visitMethodInvocation(call, none);
   }
@@ -300,9 +306,8 @@ final class LanguageRules extends TreePathScanner<Void, Void> {
     boolean inField = enclosingMethod() == null;
     fault(!inField && !insideConstructor(), 4, "an array is made in a method");
     for (Tree above : getCurrentPath()) {
-      boolean unsure = above instanceof IfTree || above instanceof ForLoopTree || above instanceof WhileLoopTree
-          || above instanceof DoWhileLoopTree || above instanceof EnhancedForLoopTree
-          || above.getKind() == Tree.Kind.CONDITIONAL_EXPRESSION || above.getKind() == Tree.Kind.SWITCH;
+      boolean unsure = above instanceof IfTree || isLoop(above) || above.getKind() == Tree.Kind.CONDITIONAL_EXPRESSION
+          || above.getKind() == Tree.Kind.SWITCH;
       fault(unsure, 4, "an array is made in a loop or behind a condition");
     }
     boolean oneLength = made.getDimensions().size() == 1 && made.getInitializers() == null;
@@ -319,7 +324,33 @@ final class LanguageRules extends TreePathScanner<Void, Void> {
   public Void visitAssignment(AssignmentTree assignment, Void none) {
     String target = assignment.getVariable().toString().replace("this.", "");
     fault(arrayFields.contains(target) && !insideConstructor(), 4, target + " is assigned in a method");
+    fault(arrays.contains(target) && insideLoop(), 4, target + " changes to another array in a loop");
     return super.visitAssignment(assignment, none);
+  }
+
+  private boolean isArray(ExpressionTree expression) {
+    return arrays.contains(expression.toString().replace("this.", ""));
+  }
+
+  private boolean insideLoop() {
+    for (Tree above : getCurrentPath()) {
+      if (isLoop(above)) {
+        return true;
+      }
+    }
+    return false;
+  }
+
+  private static boolean isLoop(Tree tree) {
+    return tree instanceof ForLoopTree || tree instanceof WhileLoopTree || tree instanceof DoWhileLoopTree
+        || tree instanceof EnhancedForLoopTree;
+  }
+
+  @Override
+  public Void visitBinary(BinaryTree both, Void none) {
+    boolean compares = both.getKind() == Tree.Kind.EQUAL_TO || both.getKind() == Tree.Kind.NOT_EQUAL_TO;
+    fault(compares && (isArray(both.getLeftOperand()) || isArray(both.getRightOperand())), 4, "an array is compared: " + both);
+    return super.visitBinary(both, none);
   }
 
   @Override

@@ -87,6 +87,9 @@ public final class LanguageTest {
     dueFault(4, BODY, "int[] b = {1, 2};");
     dueFault(4, BODY, "f = a == null ? 1 : 0;");
     dueFault(4, BODY, "a = a;");
+    dueFault(4, BODY, "int[] b = a; f = a == b ? 1 : 0;");
+    dueFault(4, BODY, "int[] b = a; while (x < 3) { x++; b = a; }");
+    dueFault(4, "f = x;", "f = r(a); } private int r(int[] b) { return 1;");
     dueFault(4, BODY, "new P(1);");
     dueFault(4, FIELD, FIELD + " private int[] r() { return a; }");
     dueFault(4, "new int[C]", "new int[0]");

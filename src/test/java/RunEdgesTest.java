@@ -46,11 +46,15 @@ public final class RunEdgesTest {
     outOfFuelExactlyWhen();
     statusOfEachEnding();
     statusIsNeverRefused();
-    stopLineOfEachStatus();
+    stopLineOfNoLine();
+    stopLineOfEnd();
+    stopLineOutOfFuel();
+    stopLineOfAnError();
     stepsAfterAReset();
     stepsAreSummed();
     varOutside();
     outputCount();
+    outputInOrder();
     outputOutside();
     stackDepths();
     otherKinds();
@@ -381,29 +385,73 @@ public final class RunEdgesTest {
     Check.due("after a refused cont of a halted run", vm.getStatus(), HALTED);
   }
 
-  private static void stopLineOfEachStatus() {
-    Check.sentence("`getStopLine()` .. is -1 when ST_IDLE or when halted by reaching END-OF-PROGRAM. .. END line. .. next. .. failing line.");
-    Check.due("new object", small().getStopLine(), -1);
+  /** The stop lines of the endings with this status, or of all that failed if it is 0. */
+  private static void dueStopLines(int status) {
     for (int i = 0; i < ENDINGS.length; i++) {
-      TinyBasicVm vm = Check.compiled(small(), ENDINGS[i]);
-      Check.due("idle", vm.getStopLine(), -1);
+      if (STATUSES[i] == status || status == 0 && STATUSES[i] > FUEL) {
+        TinyBasicVm vm = Check.compiled(small(), ENDINGS[i]);
+        vm.run(9);
+        Check.due("after run of " + Check.quote(ENDINGS[i]), vm.getStopLine(), STOP_LINES[i]);
+        vm.cont(9);
+        Check.due("after a refused cont", vm.getStopLine(), STOP_LINES[i]);
+      }
+    }
+  }
+
+  private static void stopLineOfNoLine() {
+    Check.sentence("`getStopLine()` .. is -1 when ST_IDLE or when halted by reaching END-OF-PROGRAM.");
+    Check.due("new object", small().getStopLine(), -1);
+    for (String text : ENDINGS) {
+      TinyBasicVm vm = Check.compiled(small(), text);
+      Check.due("idle before run of " + Check.quote(text), vm.getStopLine(), -1);
       vm.run(9);
-      Check.due("after run of " + Check.quote(ENDINGS[i]), vm.getStopLine(), STOP_LINES[i]);
-      vm.cont(9);
-      Check.due("after a refused cont", vm.getStopLine(), STOP_LINES[i]);
       vm.compile();
       Check.due("idle after compile", vm.getStopLine(), -1);
+      vm.run(9);
+      vm.put(10, 0, 0, 0);
+      Check.due("idle after put", vm.getStopLine(), -1);
+      vm.compile();
+      vm.run(9);
+      vm.clear();
+      Check.due("idle after clear", vm.getStopLine(), -1);
     }
+    dueStopLines(HALTED);
+  }
+
+  private static void stopLineOfEnd() {
+    Check.sentence("When halted by END, it is the END line.");
+    for (int line : new int[] {1, 5, 32767}) {
+      TinyBasicVm vm = Check.compiled(line + "END");
+      vm.run(9);
+      Check.due("the END line", vm.getStopLine(), line);
+    }
+    TinyBasicVm vm = Check.compiled("1GOTO 3\n2END\n3GOTO 4\n4END\n5END");
+    vm.run(2);
+    vm.cont(1);
+    Check.due("the END line that was reached", vm.getStopLine(), 4);
+  }
+
+  private static void stopLineOutOfFuel() {
+    Check.sentence("When out of fuel, it is the line that would run next.");
     TinyBasicVm vm = Check.compiled("10GOTO 30\n20END\n30GOSUB 20");
     vm.run(1);
-    Check.due("out of fuel: the line that would run next", vm.getStopLine(), 30);
+    Check.due("the jump's target", vm.getStopLine(), 30);
     vm.cont(1);
-    Check.due("out of fuel: the subroutine's line", vm.getStopLine(), 20);
-    vm.cont(1);
-    Check.due("halted by END", vm.getStopLine(), 20);
+    Check.due("the subroutine's line", vm.getStopLine(), 20);
+    vm = Check.compiled("32767GOTO 1\n1LET A=1");
     vm.run(1);
-    vm.put(10, 0, 0, 0);
-    Check.due("idle after put", vm.getStopLine(), -1);
+    Check.due("the line after", vm.getStopLine(), 32767);
+    vm.cont(1);
+    Check.due("the first line", vm.getStopLine(), 1);
+  }
+
+  private static void stopLineOfAnError() {
+    Check.sentence("On an error, it is the failing line.");
+    dueStopLines(0);
+    TinyBasicVm vm = Check.compiled("1GOTO 9\n9GOTO 5\n10END");
+    vm.run(1);
+    vm.cont(1);
+    Check.due("the line that jumps nowhere", vm.getStopLine(), 9);
   }
 
   private static void stepsAfterAReset() {
@@ -477,8 +525,19 @@ public final class RunEdgesTest {
     }
   }
 
+  private static void outputInOrder() {
+    Check.sentence("Promise 12: `getOutput(i)` answers the i-th printed value (from 0), in the order they were printed.");
+    TinyBasicVm vm = Check.compiled("1LET A=A*-3+1\n2PRINT A\n3GOTO 1");
+    vm.run(1000);
+    int value = 0;
+    for (int i = 0; i < 32; i++) {
+      value = value * -3 + 1;
+      Check.due("getOutput(" + i + ")", vm.getOutput(i), value);
+    }
+  }
+
   private static void outputOutside() {
-    Check.sentence("Promise 12: answers the i-th printed value (from 0) .. 0 if i is outside 0..getOutputCount()-1");
+    Check.sentence("Promise 12: It answers 0 if i is outside 0..getOutputCount()-1.");
     TinyBasicVm vm = Check.compiled("1LET A=A+1\n2PRINT A*100\n3GOTO 1");
     for (int count : new int[] {32, 31, 17, 2, 1, 0}) {
       vm.run(3 * count + 1);

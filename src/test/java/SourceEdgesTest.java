@@ -15,7 +15,9 @@ public final class SourceEdgesTest {
     numberAtMost32767();
     oneLetterWord();
     longerWord();
-    symbolOfTwoCharacters();
+    symbols();
+    lessWithAnother();
+    greaterWithAnother();
     anyOtherCharacter();
     wholeTokenSequence();
     lineNumberZero();
@@ -161,18 +163,31 @@ public final class SourceEdgesTest {
     Check.dueBad("1AA", "1PRINT AA", "1PRINT AB", "1REM", "1STOP", "1" + "A".repeat(39), "1PRINT " + "Z".repeat(33));
   }
 
-  private static void symbolOfTwoCharacters() {
-    Check.sentence("'<' directly followed by '=' or '>' forms one two-character symbol. '>' directly followed by '=' ..");
+  private static void lessWithAnother() {
+    Check.sentence("'<' directly followed by '=' or '>' forms one two-character symbol.");
+    for (String wrong : new String[] {"< =", "< >", "<<", "<>=", "<=>", "<==", "<>>", "<= ="}) {
+      Check.dueBad("1IF A" + wrong + "B THEN 1");
+    }
+    Check.dueRun("1IF 1<=1THEN 3\n2PRINT 2\n3IF 1<>1THEN 5\n4PRINT 4\n5END", TinyBasicVm.ST_HALTED, 5, 4, "4");
+  }
+
+  private static void greaterWithAnother() {
+    Check.sentence("'>' directly followed by '=' forms one two-character symbol.");
+    for (String wrong : new String[] {"> =", "><", ">>", ">=<", ">==", ">=>"}) {
+      Check.dueBad("1IF A" + wrong + "B THEN 1");
+    }
+    Check.dueRun("1IF 1>=1THEN 3\n2PRINT 2\n3IF 1>1THEN 5\n4PRINT 4\n5END", TinyBasicVm.ST_HALTED, 5, 4, "4");
+  }
+
+  private static void symbols() {
+    Check.sentence("symbol: `+ - * / ( ) = < > <= >= <>`");
     for (String symbol : new String[] {"=", "<>", "<", ">", "<=", ">="}) {
       Check.dueGood("1IF A" + symbol + "B THEN 1", "1IF A" + symbol + "-B THEN 1", "1IF A" + symbol + "(B)THEN 1");
-    }
-    for (String wrong : new String[] {"< =", "< >", "> =", "><", "=<", "=>", "<<", ">>", "==", "<>=", "<=>", ">=<", "<=="}) {
-      Check.dueBad("1IF A" + wrong + "B THEN 1");
     }
     for (String wrong : new String[] {"(", ")", "+", "1", "B", "THEN", "TO", "END", ",", "!=", "#"}) {
       Check.dueBad("1IF A " + wrong + " C THEN 1", "1IF (A) " + wrong + " 2 THEN 1");
     }
-    Check.dueBad("1IF A<", "1IF A>", "1LET A<=1", "1LET A>=1", "1FOR A<>1TO 2", "1PRINT <>");
+    Check.dueBad("1IF A<", "1IF A>", "1IF A==B THEN 1", "1IF A=<B THEN 1", "1IF A=>B THEN 1", "1LET A<=1", "1LET A>=1", "1FOR A<>1TO 2", "1PRINT <>");
   }
 
   private static void anyOtherCharacter() {

@@ -25,7 +25,8 @@ public final class StatementEdgesTest {
     errorChangesNothing();
     printIntoFullOutput();
     conditionIsSigned();
-    conditionFalseOrTrue();
+    conditionFalse();
+    conditionTrue();
     gosubUndefinedFirst();
     gosubOverflow();
     gosubOnTheLastLine();
@@ -226,10 +227,14 @@ public final class StatementEdgesTest {
     Check.dueRun(EXTREMES + "3IF " + condition + " THEN 5\n4PRINT 4\n5END", HALTED, 5, holds ? 4 : 5, holds ? "" : "4");
   }
 
-  private static void conditionFalseOrTrue() {
-    Check.sentence("If false, go to the line after. If true, evaluate t and jump to t.");
+  private static void conditionFalse() {
+    Check.sentence("IF: If false, go to the line after.");
     Check.dueRun("1IF 1=2THEN 1", HALTED, -1, 1, "");
     Check.dueRun("1IF 1=2THEN 3\n2PRINT 2\n3END", HALTED, 3, 3, "2");
+  }
+
+  private static void conditionTrue() {
+    Check.sentence("IF: If true, evaluate t and jump to t.");
     Check.dueRun("1IF 1=1THEN 3\n2PRINT 2\n3END", HALTED, 3, 2, "");
     Check.dueRun("1LET A=A+1\n2IF A<3THEN A-A+1\n3PRINT A", HALTED, -1, 7, "3");
     Check.dueRun("1IF 1=1THEN 2-3\n2END", UNDEFINED, 1, 1, "");
