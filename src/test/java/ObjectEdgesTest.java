@@ -44,6 +44,7 @@ public final class ObjectEdgesTest {
     lineCount();
     lineNumberAt();
     lineNumberOutside();
+    errorLineChangesNothing();
     listingChangesNothing();
     Check.finish();
   }
@@ -626,17 +627,34 @@ public final class ObjectEdgesTest {
     }
   }
 
-  private static void listingChangesNothing() {
-    Check.sentence("Promises 5 and 6: It changes nothing. Neither call changes anything.");
+  private static void errorLineChangesNothing() {
+    Check.sentence("Promise 5: It changes nothing.");
     TinyBasicVm vm = busy();
     TinyBasicVm other = busy();
-    String before = Check.wholeState(vm);
+    for (int i = 0; i < 20; i++) {
+      vm.getCompileErrorLine();
+    }
+    dueAlike(vm, other);
+    vm = Check.loaded("\n1OOPS");
+    vm.compile();
+    for (int i = 0; i < 20; i++) {
+      Check.due("error line asked again", vm.getCompileErrorLine(), 2);
+    }
+  }
+
+  private static void listingChangesNothing() {
+    Check.sentence("Promise 6: Neither call changes anything.");
+    TinyBasicVm vm = busy();
+    TinyBasicVm other = busy();
     for (int k : ANY_INTS) {
       vm.lineNumberAt(k);
       vm.lineCount();
-      vm.getCompileErrorLine();
     }
-    Check.due("state", Check.wholeState(vm), before);
+    dueAlike(vm, other);
+  }
+
+  private static void dueAlike(TinyBasicVm vm, TinyBasicVm other) {
+    Check.due("state", Check.wholeState(vm), Check.wholeState(other));
     Check.due("cont", vm.cont(5), other.cont(5));
     Check.due("state after cont", Check.wholeState(vm), Check.wholeState(other));
   }

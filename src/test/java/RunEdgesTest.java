@@ -1,3 +1,5 @@
+import java.util.function.ToIntBiFunction;
+
 /** The boundary sentences of promises 7 to 13, one method each. */
 public final class RunEdgesTest {
   private static final int REFUSED = TinyBasicVm.REFUSED;
@@ -586,21 +588,31 @@ public final class RunEdgesTest {
   }
 
   private static void gettersChangeNothing() {
-    Check.sentence("Promises 9 to 13: It changes nothing.");
+    Check.sentence("Promise 9: Neither call changes anything.");
+    dueUnchanged((vm, i) -> vm.getStatus() + vm.getStopLine());
+    Check.sentence("Promise 10: It changes nothing.");
+    dueUnchanged((vm, i) -> vm.getSteps());
+    Check.sentence("Promise 11: It changes nothing.");
+    dueUnchanged((vm, i) -> vm.getVar(i));
+    Check.sentence("Promise 12: Neither call changes anything.");
+    dueUnchanged((vm, i) -> vm.getOutputCount() + vm.getOutput(i));
+    Check.sentence("Promise 13: It changes nothing.");
+    dueUnchanged((vm, i) -> vm.getStackDepth(i));
+  }
+
+  /** Asks a getter again and again in the middle of each program: nothing changes, then or later. */
+  private static void dueUnchanged(ToIntBiFunction<TinyBasicVm, Integer> getter) {
     for (String text : PROGRAMS) {
       TinyBasicVm vm = Check.compiled(text);
       TinyBasicVm other = Check.compiled(text);
       vm.run(6);
       other.run(6);
       String before = Check.wholeState(vm);
+      for (int i = -2; i <= 33; i++) {
+        getter.applyAsInt(vm, i);
+      }
       for (int i : ANY_FUELS) {
-        vm.getVar(i);
-        vm.getOutput(i);
-        vm.getStackDepth(i);
-        vm.getStatus();
-        vm.getStopLine();
-        vm.getSteps();
-        vm.getOutputCount();
+        getter.applyAsInt(vm, i);
       }
       Check.due("state", Check.wholeState(vm), before);
       Check.due("cont", vm.cont(9), other.cont(9));

@@ -24,6 +24,7 @@ public final class StatementEdgesTest {
     jumpToNoLine();
     errorChangesNothing();
     printIntoFullOutput();
+    printIntoTheLastRoom();
     conditionIsSigned();
     conditionFalse();
     conditionTrue();
@@ -193,18 +194,27 @@ public final class StatementEdgesTest {
   }
 
   private static void printIntoFullOutput() {
-    Check.sentence("PRINT: If the output already holds outCap values, the result is ERR_OUTPUT_FULL. Otherwise append the value");
+    Check.sentence("PRINT: If the output already holds outCap values, the result is ERR_OUTPUT_FULL.");
     for (int outCap = 1; outCap <= 32; outCap++) {
       TinyBasicVm vm = Check.compiled(vm(1, 1, outCap), "1LET A=A+1\n2PRINT A*3\n3GOTO 1");
-      Check.due("the last value that has room", vm.run(3 * outCap), FUEL);
-      Check.due("values", vm.getOutputCount(), outCap);
-      Check.due("the last value", vm.getOutput(outCap - 1), outCap * 3);
       Check.due("one value more", vm.run(3 * outCap + 2), FULL);
       Check.dueStop("one value more", vm, FULL, 2, 3 * outCap + 2);
       Check.due("values when full", vm.getOutputCount(), outCap);
       Check.due("the last value when full", vm.getOutput(outCap - 1), outCap * 3);
       Check.due("the first value when full", vm.getOutput(0), 3);
     }
+  }
+
+  private static void printIntoTheLastRoom() {
+    Check.sentence("PRINT: Otherwise append the value and go to the line after.");
+    for (int outCap = 1; outCap <= 32; outCap++) {
+      TinyBasicVm vm = Check.compiled(vm(1, 1, outCap), "1LET A=A+1\n2PRINT A*3\n3GOTO 1");
+      Check.due("the last value that has room", vm.run(3 * outCap - 1), FUEL);
+      Check.dueStop("the last value that has room", vm, FUEL, 3, 3 * outCap - 1);
+      Check.due("values", vm.getOutputCount(), outCap);
+      Check.due("the last value", vm.getOutput(outCap - 1), outCap * 3);
+    }
+    Check.dueRun(vm(1, 1, 1), "1PRINT 7", HALTED, -1, 1, "7");
   }
 
   private static void conditionIsSigned() {
@@ -241,7 +251,7 @@ public final class StatementEdgesTest {
   }
 
   private static void gosubUndefinedFirst() {
-    Check.sentence("GOSUB: If no line has number t, the result is ERR_UNDEFINED_LINE. Else, .. ERR_GOSUB_OVERFLOW");
+    Check.sentence("GOSUB: If no line has number t, the result is ERR_UNDEFINED_LINE.");
     for (int depth = 1; depth <= 8; depth++) {
       String text = "1LET A=A+1\n2IF A>" + depth + "THEN 4\n3GOSUB 1\n4GOSUB 5";
       TinyBasicVm vm = Check.dueRun(vm(depth, 1, 1), text, UNDEFINED, 4, 3 * depth + 3, "");
