@@ -10,17 +10,22 @@ public final class ShortLinesTest {
   };
 
   public static void main(String[] args) {
-    everyLine("5", TOKENS, 3);
-    everyLine("5 LET A", TOKENS, 2);
-    everyLine("5 FOR A=1", TOKENS, 2);
-    everyLine("5 IF A=1", TOKENS, 2);
+    everyLine("5", TOKENS, 3, "");
+    everyLine("5 LET A", TOKENS, 2, "");
+    everyLine("5 FOR A=1", TOKENS, 2, "");
+    everyLine("5 FOR", TOKENS, 2, "1 TO 2");
+    everyLine("5 IF A=1", TOKENS, 2, "");
+    everyLine("5 IF A", TOKENS, 2, "A THEN 5");
     for (String start : BEFORE_EXPRESSION) {
-      everyLine(start, EXPRESSION_CHARACTERS, 3);
+      everyLine(start, EXPRESSION_CHARACTERS, 3, "");
     }
-    everyLine("5PRINT ", EXPRESSION_CHARACTERS, 4);
+    everyLine("5PRINT ", EXPRESSION_CHARACTERS, 4, "");
     String[] characters = everyCharacter();
-    everyLine("", characters, 2);
-    everyLine("5PRINT 1", characters, 2);
+    everyLine("", characters, 2, "");
+    everyLine("", characters, 2, "END");
+    everyLine("5PRINT 1", characters, 2, "");
+    everyLine("5IF 1", characters, 2, "2THEN 5");
+    everyLine("5IF 1", characters, 2, "1THEN 5");
     Check.finish();
   }
 
@@ -33,11 +38,12 @@ public final class ShortLinesTest {
     return characters;
   }
 
-  private static void everyLine(String start, String[] parts, int most) {
-    dueAlike(start);
+  /** The lines from start to end with at most this many parts between them. */
+  private static void everyLine(String start, String[] parts, int most, String end) {
+    dueAlike(start + end);
     if (most > 0) {
       for (String part : parts) {
-        everyLine(start + part, parts, most - 1);
+        everyLine(start + part, parts, most - 1, end);
       }
     }
   }
